@@ -179,7 +179,7 @@ public final class ViewKeeper {
     }
 
     private static boolean holds(int pairs, int x, int y) {
-        return (pairs & bit(x, y)) != 0;
+        return ((pairs >> (THINGS * x + y)) & 1) != 0;
     }
 
     private static int row(int pairs, int x) {
@@ -263,7 +263,7 @@ public final class ViewKeeper {
             if (book.layerOf(rule.head) == layer && book.leadsTo(rule.head, rule.head)) {
                 int found = suspectsBy(rule) & ~suspects[rule.head];
                 suspects[rule.head] |= found;
-                more |= found != 0;
+                more = more || found != 0;
             }
         }
         return more;
@@ -320,7 +320,7 @@ public final class ViewKeeper {
             if (book.layerOf(rule.head) == layer) {
                 int found = rule.given(now) & ~now[rule.head];
                 now[rule.head] |= found;
-                more |= found != 0;
+                more = more || found != 0;
             }
         }
         return more;
@@ -335,7 +335,7 @@ public final class ViewKeeper {
 
         /** The relations that the rule looks at, relation r being bit r. */
         private int body() {
-            return form == COPY || form == TURN ? 1 << p : 1 << p | 1 << q;
+            return form == COPY || form == TURN ? 1 << p : (1 << p) | (1 << q);
         }
 
         /** The pairs that instances of the rule give in a state. */
@@ -415,7 +415,7 @@ public final class ViewKeeper {
         }
 
         private boolean leadsTo(int from, int to) {
-            return (needed[from] & 1 << to) != 0;
+            return (needed[from] & (1 << to)) != 0;
         }
 
         private boolean hasCycle() {
@@ -433,7 +433,7 @@ public final class ViewKeeper {
          * as many only if it needs the view, too. So layers from low to high are an order to bring views up to date.
          */
         private int layerOf(int view) {
-            return Integer.bitCount(needed[view] | 1 << view);
+            return Integer.bitCount(needed[view] | (1 << view));
         }
     }
 }

@@ -275,6 +275,26 @@ public final class ViewKeeperPromises {
         changes("put in, as what it is without has lost", k, 2, 2, 0, 0, 0);
     }
 
+    private static void commitThroughAllRelations() {
+        ViewKeeper k = new ViewKeeper();
+        k.rule(6, 0, 0, 0);
+        k.rule(5, 4, 1, 6);
+        k.rule(4, 0, 5, 0);
+        k.rule(3, 1, 4, 0);
+        k.rule(2, 4, 0, 3);
+        stageAll(k, 0, "01 02", true);
+        stageAll(k, 1, "02 10", true);
+        due("a chain of all seven", k.commit(), 2 + 2 + 2 + 1 + 1 + 1 + 1);
+        isExactly("end of the chain", k, 2, "02");
+        stageAll(k, 1, "10", false);
+        due("from one end to the other", k.commit(), 5);
+        isExactly("end of the chain", k, 2, "01 02");
+        due("a rule makes the whole chain anew", k.rule(5, 1, 0, 0), 5);
+        isExactly("end of the chain", k, 2, "");
+        due("and so does undo", k.undo(), 5);
+        isExactly("end of the chain", k, 2, "01 02");
+    }
+
     private static void abortTransactions() {
         ViewKeeper k = ways();
         stageAll(k, 0, "01 02 03", true);
@@ -321,6 +341,12 @@ public final class ViewKeeperPromises {
         due("turned and in 0", k.count(3, 0, 4), 12);
         due("a pair that is not in", k.count(3, 1, 1), 0);
         due("a fact", k.count(0, 0, 4), 1);
+        k.stage(1, 0, 3, true);
+        due("a staged fact", k.count(1, 0, 3), 0);
+        k.commit();
+        due("a new fact", k.count(1, 0, 3), 1);
+        k.stage(1, 0, 3, false);
+        k.commit();
         due("no fact", k.count(1, 0, 3), 0);
         k.rule(4, 4, 3, 0);
         due("without", k.count(4, 0, 4), 0);
@@ -477,6 +503,53 @@ public final class ViewKeeperPromises {
         changes("saved by the other rule", k, 2, 0, 0, 1, 1);
     }
 
+    /** View 2 is recursive by a rule that says nothing, so that the rule in question alone tells the suspects. */
+    private static ViewKeeper leaning(int form) {
+        ViewKeeper k = new ViewKeeper();
+        k.rule(2, 0, 2, 0);
+        k.rule(2, form, 0, 1);
+        stageAll(k, 0, "00 01 12 33", true);
+        stageAll(k, 1, "01 12 13 33", true);
+        k.commit();
+        return k;
+    }
+
+    private static void suspectsAfterTakingOut(int form, int relation, String out, String due) {
+        ViewKeeper k = leaning(form);
+        stageAll(k, relation, out, false);
+        k.commit();
+        suspectsAre("form " + form + ", " + out + " out of " + relation, k, 2, due);
+    }
+
+    private static void suspectsByForm() {
+        suspectsAfterTakingOut(0, 0, "01", "01");
+        suspectsAfterTakingOut(0, 1, "01", "");
+        suspectsAfterTakingOut(1, 0, "01", "10");
+        suspectsAfterTakingOut(1, 1, "01", "");
+        suspectsAfterTakingOut(2, 0, "01", "02 03");
+        suspectsAfterTakingOut(2, 1, "12", "02");
+        suspectsAfterTakingOut(3, 0, "01", "01");
+        suspectsAfterTakingOut(3, 1, "12", "12");
+        suspectsAfterTakingOut(3, 0, "00", "");
+        suspectsAfterTakingOut(3, 1, "13", "");
+        suspectsAfterTakingOut(4, 0, "00", "00");
+        suspectsAfterTakingOut(4, 0, "01", "");
+        suspectsAfterTakingOut(4, 1, "01", "");
+    }
+
+    private static void suspectsByBothBodiesAtOnce() {
+        ViewKeeper k = leaning(3);
+        stageAll(k, 0, "01", false);
+        stageAll(k, 1, "01 12", false);
+        due("the one pair of 2 for each", k.commit(), 3 + 2);
+        suspectsAre("both", k, 2, "01 12");
+        ViewKeeper w = leaning(4);
+        stageAll(w, 0, "00", false);
+        stageAll(w, 1, "00", true);
+        due("gone from p and put into q", w.commit(), 3);
+        suspectsAre("both", w, 2, "00");
+    }
+
     private static void suspectsAmongSeveralViews() {
         ViewKeeper k = new ViewKeeper();
         k.rule(2, 0, 0, 0);
@@ -525,6 +598,7 @@ public final class ViewKeeperPromises {
         stageEveryFact();
         commitTransactions();
         commitThroughLayers();
+        commitThroughAllRelations();
         abortTransactions();
         hasPairs();
         counts();
@@ -535,6 +609,8 @@ public final class ViewKeeperPromises {
         changedRelations();
         suspectPairs();
         suspectsOfAPutInPair();
+        suspectsByForm();
+        suspectsByBothBodiesAtOnce();
         suspectsAmongSeveralViews();
         pairsThatHoldOneAnother();
         System.out.println(wrong == 0 ? "all " + asked + " answers are as due" : wrong + " answers are not as due");
