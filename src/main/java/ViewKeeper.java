@@ -10,7 +10,9 @@ public final class ViewKeeper {
     public static final int CYCLE = -3;
 
     private static final int THINGS = 5;
-    private static final int ROW_OF_ALL = 31;
+    private static final int PAIRS = 25;
+    private static final int FIRST_ROW = 31;
+    private static final int FIRST_COLUMN = 1 | 1 << 5 | 1 << 10 | 1 << 15 | 1 << 20;
     private static final int RELATIONS = 7;
     private static final int FIRST_VIEW = 2;
     private static final int MOST_RULES = 12;
@@ -33,6 +35,8 @@ public final class ViewKeeper {
     private final int[] now;
     private final int[] before;
     private final int[] suspects;
+    /** The count of the pair with bit b in the view v is at 25v + b; a recursive view has none. */
+    private final int[] counts;
     private final int[] stagedIn;
     private final int[] stagedOut;
 
@@ -41,6 +45,7 @@ public final class ViewKeeper {
         now = new int[RELATIONS];
         before = new int[RELATIONS];
         suspects = new int[RELATIONS];
+        counts = new int[RELATIONS * PAIRS];
         stagedIn = new int[FIRST_VIEW];
         stagedOut = new int[FIRST_VIEW];
     }
@@ -57,7 +62,9 @@ public final class ViewKeeper {
             book.strikeLast();
             return CYCLE;
         }
-        remakeViews();
+        startFromNothing();
+        bringUpToDate();
+        forgetChanges();
         return book.made - 1;
     }
 
@@ -66,7 +73,9 @@ public final class ViewKeeper {
             return BAD;
         }
         book.strikeLast();
-        remakeViews();
+        startFromNothing();
+        bringUpToDate();
+        forgetChanges();
         return book.made;
     }
 
@@ -83,11 +92,7 @@ public final class ViewKeeper {
     public int commit() {
         forgetChanges();
         doStaged();
-        for (int layer = 1; layer <= RELATIONS; layer++) {
-            findSuspects(layer);
-            takeOutDoubtful(layer);
-            fill(layer);
-        }
+        bringUpToDate();
         int all = 0;
         for (int relation = 0; relation < RELATIONS; relation++) {
             all += Integer.bitCount(putInto(relation)) + Integer.bitCount(takenOutOf(relation));
@@ -109,19 +114,13 @@ public final class ViewKeeper {
     }
 
     public int count(int relation, int x, int y) {
-        if (!isRelation(relation) || !isThing(x) || !isThing(y) || book.leadsTo(relation, relation)) {
+        if (!isRelation(relation) || !isThing(x) || !isThing(y) || book.leadsBack(relation)) {
             return BAD;
         }
-        if (!isView(relation)) {
-            return holds(now[relation], x, y) ? 1 : 0;
+        if (isView(relation)) {
+            return counts[PAIRS * relation + THINGS * x + y];
         }
-        int instances = 0;
-        for (int i = 0; i < book.made; i++) {
-            if (book.rows[i].head == relation) {
-                instances += book.rows[i].instances(now, x, y);
-            }
-        }
-        return instances;
+        return holds(now[relation], x, y) ? 1 : 0;
     }
 
     public int size(int relation) {
@@ -129,7 +128,7 @@ public final class ViewKeeper {
     }
 
     public boolean recursive(int relation) {
-        return isRelation(relation) && book.leadsTo(relation, relation);
+        return isRelation(relation) && book.leadsBack(relation);
     }
 
     public boolean needs(int view, int relation) {
@@ -183,7 +182,7 @@ public final class ViewKeeper {
     }
 
     private static int row(int pairs, int x) {
-        return (pairs >> (THINGS * x)) & ROW_OF_ALL;
+        return (pairs >> (THINGS * x)) & FIRST_ROW;
     }
 
     /** All (x, y) with (y, x) in the pairs. */
@@ -212,15 +211,26 @@ public final class ViewKeeper {
         return result;
     }
 
-    /** After a change of the rules the old pairs say nothing of the new ones, so the views start from nothing. */
-    private void remakeViews() {
+    /**
+     * After a change of the rules the old pairs of views say nothing of the new ones: it is as if there had been
+     * nothing at all before, and all facts had been put in just now.
+     */
+    private void startFromNothing() {
+        Arrays.fill(before, 0);
+        Arrays.fill(suspects, 0);
+        Arrays.fill(counts, 0);
         for (int view = FIRST_VIEW; view < RELATIONS; view++) {
             now[view] = 0;
         }
+    }
+
+    private void bringUpToDate() {
         for (int layer = 1; layer <= RELATIONS; layer++) {
+            recount(layer);
+            findSuspects(layer);
+            takeOutSuspects(layer);
             fill(layer);
         }
-        forgetChanges();
     }
 
     private void forgetChanges() {
@@ -248,6 +258,31 @@ public final class ViewKeeper {
         return before[relation] & ~now[relation];
     }
 
+    /** A view that is not recursive leans on lower layers alone, so one look at each of its rules is enough. */
+    private void recount(int layer) {
+        for (int i = 0; i < book.made; i++) {
+            Rule rule = book.rows[i];
+            if (book.layerOf(rule.head) == layer && !book.leadsBack(rule.head)) {
+                for (int way = 0; way < rule.ways(); way++) {
+                    recountPairs(rule.head, rule.givenBy(way, before), rule.givenBy(way, now));
+                }
+            }
+        }
+    }
+
+    /** One instance gave each of the old pairs before, and one gives each of the new pairs now. */
+    private void recountPairs(int view, int oldPairs, int newPairs) {
+        int differing = oldPairs ^ newPairs;
+        for (int place = 0; place < PAIRS; place++) {
+            int pair = 1 << place;
+            if ((differing & pair) != 0) {
+                int at = PAIRS * view + place;
+                counts[at] += (newPairs & pair) != 0 ? 1 : -1;
+                now[view] = counts[at] > 0 ? now[view] | pair : now[view] & ~pair;
+            }
+        }
+    }
+
     /** Must run when the lower layers are up to date and this one is not yet touched. */
     private void findSuspects(int layer) {
         boolean more = true;
@@ -260,7 +295,7 @@ public final class ViewKeeper {
         boolean more = false;
         for (int i = 0; i < book.made; i++) {
             Rule rule = book.rows[i];
-            if (book.layerOf(rule.head) == layer && book.leadsTo(rule.head, rule.head)) {
+            if (book.layerOf(rule.head) == layer && book.leadsBack(rule.head)) {
                 int found = suspectsBy(rule) & ~suspects[rule.head];
                 suspects[rule.head] |= found;
                 more = more || found != 0;
@@ -294,14 +329,11 @@ public final class ViewKeeper {
         return book.leadsTo(relation, view) ? suspects[relation] : takenOutOf(relation);
     }
 
-    /**
-     * A pair of a recursive view that is no suspect keeps all its reasons, so filling may start from it. A view that
-     * is not recursive is made by one pass over its rules, so nothing of it is worth keeping.
-     */
-    private void takeOutDoubtful(int layer) {
+    /** A pair that is no suspect keeps all its reasons, so filling may start from it. */
+    private void takeOutSuspects(int layer) {
         for (int view = FIRST_VIEW; view < RELATIONS; view++) {
             if (book.layerOf(view) == layer) {
-                now[view] = book.leadsTo(view, view) ? now[view] & ~suspects[view] : 0;
+                now[view] &= ~suspects[view];
             }
         }
     }
@@ -317,7 +349,7 @@ public final class ViewKeeper {
         boolean more = false;
         for (int i = 0; i < book.made; i++) {
             Rule rule = book.rows[i];
-            if (book.layerOf(rule.head) == layer) {
+            if (book.layerOf(rule.head) == layer && book.leadsBack(rule.head)) {
                 int found = rule.given(now) & ~now[rule.head];
                 now[rule.head] |= found;
                 more = more || found != 0;
@@ -354,18 +386,14 @@ public final class ViewKeeper {
             }
         }
 
-        /** How many instances of the rule give the pair in a state: only form 2 can have more than one. */
-        private int instances(int[] state, int x, int y) {
-            if (form != JOIN) {
-                return holds(given(state), x, y) ? 1 : 0;
-            }
-            int ways = 0;
-            for (int z = 0; z < THINGS; z++) {
-                if (holds(state[p], x, z) && holds(state[q], z, y)) {
-                    ways++;
-                }
-            }
-            return ways;
+        /** How many instances of the rule may give the same pair: for form 2 one for each z. */
+        private int ways() {
+            return form == JOIN ? THINGS : 1;
+        }
+
+        /** The pairs that instances of the rule give in a state; for form 2 those alone whose z is the way. */
+        private int givenBy(int way, int[] state) {
+            return form == JOIN ? joined(state[p] & (FIRST_COLUMN << way), state[q]) : given(state);
         }
     }
 
@@ -416,6 +444,10 @@ public final class ViewKeeper {
 
         private boolean leadsTo(int from, int to) {
             return (needed[from] & (1 << to)) != 0;
+        }
+
+        private boolean leadsBack(int relation) {
+            return leadsTo(relation, relation);
         }
 
         private boolean hasCycle() {
